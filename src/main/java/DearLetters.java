@@ -10,6 +10,7 @@ public final class DearLetters {
     private static final int STATEMENTS_MOST = 80;
     private static final int NAME_MOST = 6;
     private static final int DIGITS_MOST = 4;
+    private static final int NUMBER_MOST = 9999;
     private static final int LETTERS_MOST = 8;
     private static final int GIFTS_MOST = 4;
     private static final int HELPERS_MOST = 3;
@@ -320,7 +321,8 @@ public final class DearLetters {
         }
         scratch.copyFrom(now);
         for (int k = 0; k < n; k++) {
-            goBy(scratch);
+            evening.plan(current, scratch);
+            evening.close(current, scratch);
         }
         return scratch.countDone();
     }
@@ -333,7 +335,8 @@ public final class DearLetters {
                 return k;
             }
             if (k < most) {
-                goBy(scratch);
+                evening.plan(current, scratch);
+                evening.close(current, scratch);
             }
         }
         return NONE;
@@ -465,7 +468,9 @@ public final class DearLetters {
         remember();
         int answers = 0;
         for (int k = 0; k < n; k++) {
-            answers += goBy(now);
+            evening.plan(current, now);
+            evening.close(current, now);
+            answers += evening.answers;
         }
         return answers;
     }
@@ -478,7 +483,8 @@ public final class DearLetters {
         int colds = 0;
         for (int k = 0; k < n; k++) {
             colds += catchColds();
-            goBy(now);
+            evening.plan(current, now);
+            evening.close(current, now);
         }
         return colds;
     }
@@ -625,18 +631,6 @@ public final class DearLetters {
         return n >= 1 && n <= EVENINGS_MOST && now.day + n <= DAY_MOST;
     }
 
-    private int goBy(State state) {
-        evening.plan(current, state);
-        for (int letter = 0; letter < current.count[LETTERS]; letter++) {
-            if (evening.helperFor[letter] != NONE) {
-                state.doneBy[letter] = evening.helperFor[letter];
-            }
-        }
-        state.day++;
-        state.rest(current);
-        return evening.answers;
-    }
-
     private int catchColds() {
         int colds = 0;
         for (int helper = 0; helper < current.count[HELPERS]; helper++) {
@@ -678,34 +672,39 @@ public final class DearLetters {
         }
     }
 
-    /** The tape, with a place up to which it is read, and the latest fault. */
+    /** The tape, read word by word: the token that is next, and the latest fault. */
     private static final class Text {
-        private static final int END = -1;
-        private static final int TOO_LONG = -1;
+        static final int END = 0;
+        static final int WORD = 1;
+        static final int NUMBER = 2;
+        static final int SIGN = 3;
+        static final int GLUED = 4;
 
         final int[] bytes = new int[TEXT_MOST];
         int size;
-        int at;
-        int tokenAt;
         int fault;
         int place = NONE;
-        private int wordEnd;
+        int kind;
+        int tokenAt;
+        int sign;
+        int word;
+        private int value;
+        private int tokenEnd;
         private final int[] words = new int[WORD_COUNT];
 
         Text() {
-            int word = 0;
+            int count = 0;
             int from = 0;
-            for (int k = 0; k <= WORDS.length(); k++) {
+            for (int k = 0; k <= WORDS.length() && count < words.length; k++) {
                 if (k == WORDS.length() || WORDS.charAt(k) == ' ') {
-                    if (word < words.length) {
-                        words[word] = packedConstant(from, k);
-                    }
-                    word++;
+                    words[count] = packedConstant(from, k);
+                    count++;
                     from = k + 1;
                 }
             }
         }
 
+        /** Five bits a letter, the first letter highest, as names are held. */
         private static int packedConstant(int from, int to) {
             int packed = 0;
             for (int k = from; k < from + NAME_MOST; k++) {
@@ -725,12 +724,69 @@ public final class DearLetters {
         }
 
         void open() {
-            at = 0;
             fault = 0;
             place = NONE;
+            kind = END;
+            tokenEnd = 0;
+            next();
         }
 
-        boolean fail(int what, int where) {
+        void next() {
+            boolean behindWord = kind == WORD || kind == NUMBER;
+            tokenAt = tokenEnd;
+            while (tokenAt < size && (bytes[tokenAt] == 32 || bytes[tokenAt] == 10)) {
+                tokenAt++;
+            }
+            // Words and numbers side by side need a blank: without one nothing can go on here.
+            boolean glued = behindWord && tokenAt == tokenEnd;
+            int first = tokenAt < size ? bytes[tokenAt] : NONE;
+            sign = NONE;
+            word = NONE;
+            tokenEnd = tokenAt;
+            if (first == NONE) {
+                kind = END;
+            } else if (first >= 'a' && first <= 'z') {
+                readWord();
+                kind = glued ? GLUED : WORD;
+                word = glued ? NONE : word;
+            } else if (first >= '0' && first <= '9') {
+                readDigits();
+                kind = glued ? GLUED : NUMBER;
+            } else {
+                kind = SIGN;
+                sign = first;
+                tokenEnd++;
+            }
+        }
+
+        private void readWord() {
+            int packed = 0;
+            while (tokenEnd < size && bytes[tokenEnd] >= 'a' && bytes[tokenEnd] <= 'z') {
+                packed = tokenEnd < tokenAt + NAME_MOST ? 32 * packed + bytes[tokenEnd] - 'a' + 1 : NONE;
+                tokenEnd++;
+            }
+            if (packed == NONE) {
+                return;
+            }
+            value = packed << 5 * (NAME_MOST - (tokenEnd - tokenAt));
+            for (int k = 0; k < words.length && word == NONE; k++) {
+                word = words[k] == value ? k : NONE;
+            }
+        }
+
+        private void readDigits() {
+            value = 0;
+            while (tokenEnd < size && bytes[tokenEnd] >= '0' && bytes[tokenEnd] <= '9') {
+                value = tokenEnd < tokenAt + DIGITS_MOST ? 10 * value + bytes[tokenEnd] - '0' : 0;
+                tokenEnd++;
+            }
+        }
+
+        boolean fail(int what) {
+            return failAt(what, tokenAt);
+        }
+
+        private boolean failAt(int what, int where) {
             if (fault == 0) {
                 fault = what;
                 place = where;
@@ -738,127 +794,45 @@ public final class DearLetters {
             return false;
         }
 
-        /** The next byte that is no blank, where reading goes on; END behind all. */
-        int peek() {
-            while (at < size && (bytes[at] == 32 || bytes[at] == 10)) {
-                at++;
+        boolean takeSign(int asked) {
+            if (sign != asked) {
+                return fail(FAULT_TEXT);
             }
-            return at < size ? bytes[at] : END;
-        }
-
-        boolean takeSign(int sign) {
-            if (peek() != sign) {
-                return fail(FAULT_TEXT, at);
-            }
-            at++;
+            next();
             return true;
         }
 
-        /** Which of WORDS stands here whole; NONE for another one, or none. */
-        int wordHere() {
-            return wordNumber(packedHere());
-        }
-
-        /** Goes behind the word that wordHere() looked at. */
-        void takeWord() {
-            at = wordEnd;
-        }
-
-        boolean takeWord(int word) {
-            if (wordHere() != word) {
-                return fail(FAULT_TEXT, at);
-            }
-            at = wordEnd;
-            return true;
-        }
-
-        /** The name here, packed; NONE with a fault. */
-        int takeName() {
-            int packed = packedHere();
-            if (packed == TOO_LONG) {
-                fail(FAULT_TEXT, at + NAME_MOST);
-                return NONE;
-            }
-            int word = wordNumber(packed);
+        /** The name here, packed, which stays the next token; NONE with a fault. */
+        int nameHere() {
             boolean own = word != NONE && word < FIRST_WORD;
-            if (packed == 0 || own) {
-                fail(FAULT_TEXT, at);
+            if (kind != WORD || own) {
+                fail(FAULT_TEXT);
                 return NONE;
             }
-            tokenAt = at;
-            at = wordEnd;
-            return packed;
+            if (tokenEnd > tokenAt + NAME_MOST) {
+                failAt(FAULT_TEXT, tokenAt + NAME_MOST);
+                return NONE;
+            }
+            return value;
         }
 
         /** The number here; NONE with a fault. */
-        int takeNumber() {
-            int sign = peek();
-            if (!isDigit(sign) || isGlued()) {
-                fail(FAULT_TEXT, at);
+        int takeNumber(int least, int most) {
+            if (kind != NUMBER) {
+                fail(FAULT_TEXT);
                 return NONE;
             }
-            tokenAt = at;
-            int number = 0;
-            while (at < size && isDigit(bytes[at])) {
-                if (at == tokenAt + DIGITS_MOST) {
-                    fail(FAULT_TEXT, at);
-                    return NONE;
-                }
-                number = 10 * number + bytes[at] - '0';
-                at++;
-            }
-            return number;
-        }
-
-        int takeNumberWithin(int least, int most) {
-            int number = takeNumber();
-            if (number != NONE && (number < least || number > most)) {
-                fail(FAULT_NUMBER, tokenAt);
+            if (tokenEnd > tokenAt + DIGITS_MOST) {
+                failAt(FAULT_TEXT, tokenAt + DIGITS_MOST);
                 return NONE;
             }
+            int number = value;
+            if (number < least || number > most) {
+                fail(FAULT_NUMBER);
+                return NONE;
+            }
+            next();
             return number;
-        }
-
-        static boolean isDigit(int sign) {
-            return sign >= '0' && sign <= '9';
-        }
-
-        private static boolean isSmallLetter(int sign) {
-            return sign >= 'a' && sign <= 'z';
-        }
-
-        /** Words and numbers side by side need a blank between them. */
-        private boolean isGlued() {
-            return at > 0 && (isDigit(bytes[at - 1]) || isSmallLetter(bytes[at - 1]));
-        }
-
-        /** The whole word here, five bits a letter; 0 when there is none, TOO_LONG beyond six letters. */
-        private int packedHere() {
-            wordEnd = at;
-            if (!isSmallLetter(peek()) || isGlued()) {
-                return 0;
-            }
-            int packed = 0;
-            wordEnd = at;
-            while (wordEnd < size && isSmallLetter(bytes[wordEnd])) {
-                if (wordEnd < at + NAME_MOST) {
-                    packed = 32 * packed + bytes[wordEnd] - 'a' + 1;
-                }
-                wordEnd++;
-            }
-            if (wordEnd > at + NAME_MOST) {
-                return TOO_LONG;
-            }
-            return packed << 5 * (NAME_MOST - (wordEnd - at));
-        }
-
-        private int wordNumber(int packed) {
-            for (int k = 0; k < words.length; k++) {
-                if (words[k] == packed) {
-                    return k;
-                }
-            }
-            return NONE;
         }
     }
 
@@ -890,10 +864,12 @@ public final class DearLetters {
             this.text = text;
         }
 
-        boolean readHeapSum() {
+        boolean readHeapSum(Heap heap, int formula) {
             code.size = 0;
             asking = false;
-            return sum(0);
+            boolean good = sum(0);
+            heap.keep(formula, code);
+            return good;
         }
 
         boolean readQuestionSum() {
@@ -910,8 +886,8 @@ public final class DearLetters {
 
         private boolean test(int open) {
             boolean good = both(open);
-            for (int k = 0; k < TEXT_MOST && good && text.wordHere() == OR_WORD; k++) {
-                text.takeWord();
+            for (int k = 0; k < TEXT_MOST && good && text.word == OR_WORD; k++) {
+                text.next();
                 good = both(open);
                 code.add(OR);
             }
@@ -920,8 +896,8 @@ public final class DearLetters {
 
         private boolean both(int open) {
             boolean good = fact(open);
-            for (int k = 0; k < TEXT_MOST && good && text.wordHere() == AND_WORD; k++) {
-                text.takeWord();
+            for (int k = 0; k < TEXT_MOST && good && text.word == AND_WORD; k++) {
+                text.next();
                 good = fact(open);
                 code.add(AND);
             }
@@ -929,139 +905,101 @@ public final class DearLetters {
         }
 
         private boolean fact(int open) {
-            if (text.peek() == '[') {
-                return opens('[', open) && test(open + 1) && text.takeSign(']');
+            if (text.sign == '[') {
+                return opens(open) && test(open + 1) && text.takeSign(']');
             }
-            int word = text.wordHere();
-            if (word == NOT_WORD) {
-                return negation(open);
+            if (text.word == NOT_WORD) {
+                boolean good = opens(open) && fact(open + 1);
+                code.add(NOT);
+                return good;
             }
-            if (word == ALL_WORD) {
-                text.takeWord();
+            if (text.word == ALL_WORD) {
+                text.next();
                 code.add(1);
                 return true;
             }
             return comparison(open);
         }
 
-        private boolean negation(int open) {
-            if (open >= OPEN_MOST) {
-                return text.fail(FAULT_OPEN, text.at);
-            }
-            text.takeWord();
-            if (!fact(open + 1)) {
-                return false;
-            }
-            code.add(NOT);
-            return true;
-        }
-
         private boolean comparison(int open) {
             if (!sum(open)) {
                 return false;
             }
-            int sign = text.peek();
+            int sign = text.sign;
             if (sign != '<' && sign != '>' && sign != '=') {
-                return text.fail(FAULT_TEXT, text.at);
+                return text.fail(FAULT_TEXT);
             }
-            text.at++;
-            if (!sum(open)) {
-                return false;
-            }
+            text.next();
+            boolean good = sum(open);
             code.add(sign == '<' ? BELOW : sign == '>' ? ABOVE : EQUAL);
-            return true;
+            return good;
         }
 
         private boolean sum(int open) {
             boolean good = product(open);
-            for (int k = 0; k < TEXT_MOST && good; k++) {
-                int sign = text.peek();
-                if (sign != '+' && sign != '-') {
-                    return true;
-                }
-                text.at++;
+            for (int k = 0; k < TEXT_MOST && good && (text.sign == '+' || text.sign == '-'); k++) {
+                int step = text.sign == '+' ? ADD : SUBTRACT;
+                text.next();
                 good = product(open);
-                code.add(sign == '+' ? ADD : SUBTRACT);
+                code.add(step);
             }
             return good;
         }
 
         private boolean product(int open) {
             boolean good = part(open);
-            for (int k = 0; k < TEXT_MOST && good; k++) {
-                int sign = text.peek();
-                if (sign != '*' && sign != '/') {
-                    return true;
-                }
-                text.at++;
+            for (int k = 0; k < TEXT_MOST && good && (text.sign == '*' || text.sign == '/'); k++) {
+                int step = text.sign == '*' ? MULTIPLY : DIVIDE;
+                text.next();
                 good = part(open);
-                code.add(sign == '*' ? MULTIPLY : DIVIDE);
+                code.add(step);
             }
             return good;
         }
 
         private boolean part(int open) {
-            int sign = text.peek();
-            if (Text.isDigit(sign)) {
-                return number();
+            if (text.kind == Text.NUMBER) {
+                code.add(text.takeNumber(0, NUMBER_MOST));
+                return text.fault == 0;
             }
-            if (sign == '(') {
-                return opens('(', open) && sum(open + 1) && text.takeSign(')');
+            if (text.sign == '(') {
+                return opens(open) && sum(open + 1) && text.takeSign(')');
             }
-            int word = text.wordHere();
-            if (word == MIN_WORD || word == MAX_WORD) {
-                return choice(open, word == MIN_WORD ? LESSER : GREATER);
+            if (text.word == MIN_WORD || text.word == MAX_WORD) {
+                return choice(open);
             }
-            if (asking && word == WISH_WORD) {
-                return wishPart(open);
+            if (asking && text.word == WISH_WORD) {
+                boolean good = opens(open) && part(open + 1);
+                code.add(WISH_OF);
+                return good;
             }
-            int value = asking ? questionValue(word) : heapValue(word);
+            int value = asking ? questionValue(text.word) : heapValue(text.word);
             if (value == NONE) {
-                return text.fail(FAULT_TEXT, text.at);
+                return text.fail(FAULT_TEXT);
             }
-            text.takeWord();
+            text.next();
             code.add(-1 - value);
             return true;
         }
 
-        private boolean number() {
-            int number = text.takeNumber();
-            if (number == NONE) {
-                return false;
+        private boolean choice(int open) {
+            int step = text.word == MIN_WORD ? LESSER : GREATER;
+            text.next();
+            if (text.sign != '(') {
+                return text.fail(FAULT_TEXT);
             }
-            code.add(number);
-            return true;
-        }
-
-        private boolean choice(int open, int step) {
-            text.takeWord();
-            if (!opens('(', open) || !sum(open + 1) || !text.takeSign(',')) {
-                return false;
-            }
-            if (!sum(open + 1) || !text.takeSign(')')) {
-                return false;
-            }
+            boolean good = opens(open) && sum(open + 1) && text.takeSign(',') && sum(open + 1) && text.takeSign(')');
             code.add(step);
-            return true;
+            return good;
         }
 
-        private boolean wishPart(int open) {
+        /** Takes what opens here, if no more than the most are open then. */
+        private boolean opens(int open) {
             if (open >= OPEN_MOST) {
-                return text.fail(FAULT_OPEN, text.at);
+                return text.fail(FAULT_OPEN);
             }
-            text.takeWord();
-            if (!part(open + 1)) {
-                return false;
-            }
-            code.add(WISH_OF);
+            text.next();
             return true;
-        }
-
-        private boolean opens(int sign, int open) {
-            if (text.peek() == sign && open >= OPEN_MOST) {
-                return text.fail(FAULT_OPEN, text.at);
-            }
-            return text.takeSign(sign);
         }
 
         private static int heapValue(int word) {
@@ -1103,6 +1041,9 @@ public final class DearLetters {
 
     /** What a heap's text tells; nothing in it changes by acts. */
     private static final class Heap {
+        static final int TAKES_FORMULA = 0;
+        static final int WARM_FORMULA = 1;
+        private static final int FORMULAS = 2;
         private static final int TIME_WITHOUT = 20;
         private static final int MISSED_WITHOUT = 3;
 
@@ -1119,10 +1060,8 @@ public final class DearLetters {
         final int[] hand = new int[HELPERS_MOST];
         final int[] bears = new int[HELPERS_MOST];
         final Code code = new Code();
-        int takesFrom;
-        int takesTo;
-        int warmFrom;
-        int warmTo;
+        final int[] from = new int[FORMULAS];
+        final int[] to = new int[FORMULAS];
         int missed;
         int cold;
 
@@ -1142,10 +1081,16 @@ public final class DearLetters {
             code.size = 0;
             code.add(TIME_WITHOUT);
             code.add(-1 - HAND_VALUE);
-            takesFrom = 0;
-            takesTo = 1;
-            warmFrom = 1;
-            warmTo = 2;
+            from[TAKES_FORMULA] = 0;
+            to[TAKES_FORMULA] = 1;
+            from[WARM_FORMULA] = 1;
+            to[WARM_FORMULA] = 2;
+        }
+
+        void keep(int formula, Code sum) {
+            from[formula] = code.size;
+            code.addAll(sum);
+            to[formula] = code.size;
         }
 
         int find(int kind, int name) {
@@ -1194,31 +1139,59 @@ public final class DearLetters {
         boolean read() {
             heap.clear();
             text.open();
-            for (statements = 0; statements < STATEMENTS_MOST; statements++) {
-                if (text.peek() == Text.END) {
-                    return true;
-                }
+            for (statements = 0; statements < STATEMENTS_MOST && text.kind != Text.END; statements++) {
                 if (!statement() || !text.takeSign(';')) {
                     return false;
                 }
             }
-            return text.peek() == Text.END || text.fail(FAULT_MANY, text.at);
+            return text.kind == Text.END || text.fail(FAULT_MANY);
         }
 
         private boolean statement() {
-            int kind = kindOf(text.wordHere());
+            int kind = kindOf(text.word);
             if (kind == NONE) {
-                return text.fail(FAULT_TEXT, text.at);
+                return text.fail(FAULT_TEXT);
             }
             if (heap.count[kind] >= KIND_MOST[kind]) {
-                return text.fail(FAULT_MANY, text.at);
+                return text.fail(FAULT_MANY);
             }
-            text.takeWord();
-            if (!content(kind)) {
-                return false;
+            text.next();
+            boolean good;
+            switch (kind) {
+                case LETTERS:
+                    good = letterContent();
+                    break;
+                case GIFTS:
+                    good = giftContent();
+                    break;
+                case HELPERS:
+                    good = helperContent();
+                    break;
+                case NEARS:
+                    good = nearContent();
+                    break;
+                case LIKES:
+                    good = likeContent();
+                    break;
+                case TAKES:
+                    good = sums.readHeapSum(heap, Heap.TAKES_FORMULA);
+                    break;
+                case WARMS:
+                    good = sums.readHeapSum(heap, Heap.WARM_FORMULA);
+                    break;
+                case WISHES:
+                    good = wishContent();
+                    break;
+                case MISSES:
+                    heap.missed = text.takeNumber(0, 99);
+                    good = heap.missed != NONE;
+                    break;
+                default:
+                    heap.cold = text.takeNumber(0, 100);
+                    good = heap.cold != NONE;
             }
             heap.count[kind]++;
-            return true;
+            return good;
         }
 
         private static int kindOf(int word) {
@@ -1248,33 +1221,6 @@ public final class DearLetters {
             }
         }
 
-        private boolean content(int kind) {
-            switch (kind) {
-                case LETTERS:
-                    return letterContent();
-                case GIFTS:
-                    return giftContent();
-                case HELPERS:
-                    return helperContent();
-                case NEARS:
-                    return nearContent();
-                case LIKES:
-                    return likeContent();
-                case TAKES:
-                    return takesContent();
-                case WARMS:
-                    return warmContent();
-                case WISHES:
-                    return wishContent();
-                case MISSES:
-                    heap.missed = text.takeNumberWithin(0, 99);
-                    return heap.missed != NONE;
-                default:
-                    heap.cold = text.takeNumberWithin(0, 100);
-                    return heap.cold != NONE;
-            }
-        }
-
         private boolean letterContent() {
             int k = heap.count[LETTERS];
             return newName(LETTERS)
@@ -1296,54 +1242,40 @@ public final class DearLetters {
         }
 
         private boolean nearContent() {
-            int one = knownName(LETTERS);
-            int other = one == NONE ? NONE : knownName(LETTERS);
+            int one = takeName(LETTERS);
+            int other = one == NONE ? NONE : knownHere(LETTERS);
             if (other == NONE) {
                 return false;
             }
             if (one == other || heap.isNear(one, other)) {
-                return text.fail(FAULT_NAME, text.tokenAt);
+                return text.fail(FAULT_NAME);
             }
+            text.next();
             heap.near[one] |= 1 << other;
             heap.near[other] |= 1 << one;
             return true;
         }
 
         private boolean likeContent() {
-            int one = knownName(LETTERS);
-            int other = one == NONE ? NONE : knownName(LETTERS);
+            int one = takeName(LETTERS);
+            int other = one == NONE ? NONE : knownHere(LETTERS);
             if (other == NONE) {
                 return false;
             }
             if (one == other || heap.odds[one][other] != NONE) {
-                return text.fail(FAULT_NAME, text.tokenAt);
+                return text.fail(FAULT_NAME);
             }
-            int odds = text.takeNumberWithin(0, ODDS_MOST);
+            text.next();
+            int odds = text.takeNumber(0, ODDS_MOST);
             heap.odds[one][other] = odds;
             heap.odds[other][one] = odds;
             return odds != NONE;
         }
 
-        private boolean takesContent() {
-            boolean good = sums.readHeapSum();
-            heap.takesFrom = heap.code.size;
-            heap.code.addAll(sums.code);
-            heap.takesTo = heap.code.size;
-            return good;
-        }
-
-        private boolean warmContent() {
-            boolean good = sums.readHeapSum();
-            heap.warmFrom = heap.code.size;
-            heap.code.addAll(sums.code);
-            heap.warmTo = heap.code.size;
-            return good;
-        }
-
         private boolean wishContent() {
-            int letter = knownName(LETTERS);
-            int gift = letter == NONE ? NONE : knownName(GIFTS);
-            int wish = gift == NONE ? NONE : text.takeNumberWithin(1, 9);
+            int letter = takeName(LETTERS);
+            int gift = letter == NONE ? NONE : takeName(GIFTS);
+            int wish = gift == NONE ? NONE : text.takeNumber(1, 9);
             if (wish == NONE) {
                 return false;
             }
@@ -1352,37 +1284,47 @@ public final class DearLetters {
         }
 
         private boolean newName(int kind) {
-            int name = text.takeName();
+            int name = text.nameHere();
             if (name == NONE) {
                 return false;
             }
             for (int k = 0; k < NAMED_KINDS; k++) {
                 if (heap.find(k, name) != NONE) {
-                    return text.fail(FAULT_NAME, text.tokenAt);
+                    return text.fail(FAULT_NAME);
                 }
             }
             heap.names[kind][heap.count[kind]] = name;
+            text.next();
             return true;
         }
 
-        /** Which one of this kind is named here; NONE with a fault. */
-        private int knownName(int kind) {
-            int name = text.takeName();
+        /** Which one of this kind is named here, its name staying the next token; NONE with a fault. */
+        private int knownHere(int kind) {
+            int name = text.nameHere();
             if (name == NONE) {
                 return NONE;
             }
             int which = heap.find(kind, name);
             if (which == NONE) {
-                text.fail(FAULT_NAME, text.tokenAt);
+                text.fail(FAULT_NAME);
+            }
+            return which;
+        }
+
+        private int takeName(int kind) {
+            int which = knownHere(kind);
+            if (which != NONE) {
+                text.next();
             }
             return which;
         }
 
         private boolean measure(int word, int least, int most, int[] row, int k) {
-            if (!text.takeWord(word)) {
-                return false;
+            if (text.word != word) {
+                return text.fail(FAULT_TEXT);
             }
-            row[k] = text.takeNumberWithin(least, most);
+            text.next();
+            row[k] = text.takeNumber(least, most);
             return row[k] != NONE;
         }
     }
@@ -1400,16 +1342,16 @@ public final class DearLetters {
 
         boolean read() {
             text.open();
-            form = text.wordHere();
+            form = text.word;
             if (form < FIRST_WORD) {
-                return text.fail(FAULT_TEXT, text.at);
+                return text.fail(FAULT_TEXT);
             }
-            text.takeWord();
+            text.next();
             boolean good = form < TOTAL_WORD ? sums.readTest() : sums.readQuestionSum();
             if (!good) {
                 return false;
             }
-            return text.peek() == Text.END || text.fail(FAULT_TEXT, text.at);
+            return text.kind == Text.END || text.fail(FAULT_TEXT);
         }
 
         long over(Heap heap, State state, Machine machine) {
@@ -1451,13 +1393,14 @@ public final class DearLetters {
         int timeOf(Heap heap, State state, int letter, int helper) {
             lookAt(heap, state, letter);
             values[HAND_VALUE] = heap.hand[helper];
-            return Math.max(1, Math.min(TIME_MOST, run(heap.code, heap.takesFrom, heap.takesTo)));
+            int time = run(heap.code, heap.from[Heap.TAKES_FORMULA], heap.to[Heap.TAKES_FORMULA]);
+            return Math.max(1, Math.min(TIME_MOST, time));
         }
 
         int warmthOf(Heap heap, State state, int letter, int helper) {
             lookAt(heap, state, letter);
             values[HAND_VALUE] = heap.hand[helper];
-            return run(heap.code, heap.warmFrom, heap.warmTo);
+            return run(heap.code, heap.from[Heap.WARM_FORMULA], heap.to[Heap.WARM_FORMULA]);
         }
 
         /** The time of a letter for a helper who can answer it; NONE when he can't. */
@@ -1523,17 +1466,17 @@ public final class DearLetters {
         private static int pair(int step, int left, int right) {
             switch (step) {
                 case ADD:
-                    return kept(left + right);
+                    return kept((long) left + right);
                 case SUBTRACT:
-                    return kept(left - right);
+                    return kept((long) left - right);
                 case MULTIPLY:
                     return kept((long) left * right);
                 case DIVIDE:
                     return right == 0 ? 0 : Math.floorDiv(left, right);
                 case LESSER:
-                    return Math.min(left, right);
+                    return left < right ? left : right;
                 case GREATER:
-                    return Math.max(left, right);
+                    return left > right ? left : right;
                 case BELOW:
                     return left < right ? 1 : 0;
                 case ABOVE:
@@ -1548,7 +1491,10 @@ public final class DearLetters {
         }
 
         private static int kept(long value) {
-            return (int) Math.max(-VALUE_MOST, Math.min(VALUE_MOST, value));
+            if (value > VALUE_MOST) {
+                return VALUE_MOST;
+            }
+            return value < -VALUE_MOST ? -VALUE_MOST : (int) value;
         }
     }
 
@@ -1706,6 +1652,17 @@ public final class DearLetters {
                 most = Math.max(most, best[set]);
             }
             readOff(most);
+        }
+
+        /** Gives the answers of the plan; the next day comes. */
+        void close(Heap heap, State state) {
+            for (int letter = 0; letter < heap.count[LETTERS]; letter++) {
+                if (helperFor[letter] != NONE) {
+                    state.doneBy[letter] = helperFor[letter];
+                }
+            }
+            state.day++;
+            state.rest(heap);
         }
 
         /** Whether anybody can answer this letter; its times and what its answers are worth go to this column. */
