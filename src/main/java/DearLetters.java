@@ -634,7 +634,7 @@ public final class DearLetters {
     private int catchColds() {
         int colds = 0;
         for (int helper = 0; helper < current.count[HELPERS]; helper++) {
-            if (drawOf(100) < current.cold) {
+            if (drawOfHundred() < current.cold) {
                 now.left[helper] = 0;
                 colds++;
             }
@@ -642,9 +642,9 @@ public final class DearLetters {
         return colds;
     }
 
-    private int drawOf(int m) {
+    private int drawOfHundred() {
         draw = (int) ((1103515245L * draw + 12345L) & 0x7fffffffL);
-        return draw / 64 % m;
+        return draw / 64 % 100;
     }
 
     private static int checkByte(int[] bytes, int size) {
