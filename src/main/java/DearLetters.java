@@ -806,7 +806,7 @@ public final class DearLetters {
         int nameHere() {
             boolean own = word != NONE && word < FIRST_WORD;
             if (kind != WORD || own) {
-                fail(FAULT_TEXT);
+                failAt(FAULT_TEXT, tokenAt);
                 return NONE;
             }
             if (tokenEnd > tokenAt + NAME_MOST) {
@@ -918,10 +918,6 @@ public final class DearLetters {
                 code.add(1);
                 return true;
             }
-            return comparison(open);
-        }
-
-        private boolean comparison(int open) {
             if (!sum(open)) {
                 return false;
             }

@@ -197,6 +197,9 @@ public final class FaultsTest {
         heap("takes ((((((1))))))+(((((((1)))))));", 4, 26);
         heap("takes ((((((1+min (1,2)))))));", 4, 18);
         heap("takes min(1,min(1,min(1,min(1,min(1,min(1,min(", 4, 45);
+        heap("takes min(min(min(min(min(min(min(1,1),1),1),1),1),1),1);", 4, 33);
+        heap("takes max(1,max(max(1,max(max(1,max(max(1,1),1)),1)),1));", 4, 39);
+        good("takes max(1,max(max(1,max(max(1,max(1,1)),1)),1));", 1);
         heap("takes (((((( (", 4, 13);
         heap("warm 1+((((((2*(", 4, 15);
     }

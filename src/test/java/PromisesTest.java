@@ -442,7 +442,7 @@ public final class PromisesTest {
         due("16: the day goes on", slow.later(11), 1);
     }
 
-    /** Evenings until it is this day; then only the letters are as at first. */
+    /** Goes on from an image of all as it is, but for the day. */
     private static void day(DearLetters mail, int day) {
         String image = Check.image(mail);
         StringBuilder all = new StringBuilder(image);
@@ -536,6 +536,13 @@ public final class PromisesTest {
         shared("not the best for each", told(two + "gift g stock 1;gift i stock 1;wish a g 9;wish a i 8;wish b g 9;"),
                 16 + 27, 1, 0);
         shared("no need", told("letter a age 0 need 0 grave 0;gift g stock 1;wish a g 9;"), 0, NONE);
+        shared("the least", told("letter a age 0 need 1 grave 0;gift g stock 1;wish a g 1;"), 1, 0);
+        StringBuilder eight = new StringBuilder(letters(8, "age 0 need 9 grave 0"));
+        eight.append("gift w stock 3;gift x stock 3;gift y stock 3;gift z stock 3;");
+        for (char letter = 'a'; letter <= 'h'; letter++) {
+            eight.append("wish ").append(letter).append(" w 9;wish ").append(letter).append(" z 8;");
+        }
+        shared("eight letters", told(eight.toString()), 3 * 81 + 3 * 72, NONE, NONE, 0, 0, 0, 3, 3, 3);
         DearLetters mail = told(two + "gift g stock 1;gift i stock 1;wish a g 9;wish a i 8;wish b g 9;");
         mail.give(1, 1);
         shared("one has one", mail, 18, 0, NONE);
@@ -644,6 +651,8 @@ public final class PromisesTest {
         due("23: two bytes", whose(mail, 0, 1, 2), 0);
         due("23: all rows", whose(mail, 0, 0, 2, 0, 0, 3), 0);
         due("23: all rows", whose(mail, 0, 0, 2, 0, 0, 2), 1);
+        due("23: rows of two letters", whose(mail, 0, 0, 3, 1, 0, 4), 2);
+        due("23: rows of two letters", whose(mail, 0, 0, 3, 1, 0, 5), 0);
         mail.evenings(1);
         due("23: on this day", mail.whose(), 0);
         due("23: on this day", whose(mail, 0, 0, 3), 1);
@@ -663,6 +672,12 @@ public final class PromisesTest {
         due("24: c", mail.takes(2, 1), 19);
         due("24: watched", mail.watched(0), 2);
         due("24: at the most", mail.watched(1), 1);
+        // b alone: 1, 1, 2.
+        mail = told(TIMES + "takes 1+(min(age,2)-max(0,age-2))/2*(hand/3);");
+        due("24: b", mail.takes(1, 1) * 10 + mail.takes(1, 2), 12);
+        due("24: c", mail.takes(2, 1) * 10 + mail.takes(2, 2), 11);
+        due("24: the second letter", mail.watched(0), 1);
+        due("24: at the most", mail.watched(1), 2);
         // Two of three are left by the minutes of the first letter.
         mail = told(TIMES + "takes 5+min(hand,2)*(3-min(age,3))+hand*(age/9);");
         due("24: a", 100 * mail.takes(0, 0) + 10 * mail.takes(0, 1) + mail.takes(0, 2), 700 + 90 + 9);
@@ -779,7 +794,13 @@ public final class PromisesTest {
         day(mail, 998);
         due("29: beyond day 999", mail.chance(2), NONE);
         due("29: up to day 999", mail.chance(1), 2);
-        due("29: without cold", told(heap).chance(3), 0);
+        DearLetters well = told(heap);
+        for (int k = 0; k < 10; k++) {
+            due("29: without cold", well.chance(50), 0);
+        }
+        mail = told(heap + "takes 1;cold 100;");
+        mail.chance(1);
+        due("29: not a minute left", mail.has(6), 0);
         due("29: the last cold counts", told(heap + "cold 100;cold 0;").chance(3), 0);
         draws(heap);
     }
