@@ -129,6 +129,10 @@ public final class ActLimitsTest {
             due("sheet " + kind + ", with a sheet", mail.has(7), can ? 1 : 0);
             due("sheet " + kind + ", refused", mail.status(2), can ? 0 : 1);
             due("sheet " + kind + " again", mail.sheet(0, kind), false);
+            mail.sheet(0, 2);
+            due("no sheet instead of one", mail.sheet(0, 0), false);
+            due("a fifth kind instead of one", mail.sheet(0, 5), false);
+            due("it has what it had", mail.mail(0, 4), 2);
         }
     }
 

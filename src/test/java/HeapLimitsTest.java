@@ -33,6 +33,9 @@ public final class HeapLimitsTest {
         unlikeNames();
         aheadOfAsked();
         namesOfTheKind();
+        endedTooSoon();
+        heapBehindQuestion();
+        manyHeaps();
         unlikePairs();
         digits();
         blanks();
@@ -185,6 +188,8 @@ public final class HeapLimitsTest {
         check.due("a wish without", mail.gift(0, 10), 0);
         check.due("wishes without", mail.mail(0, 6), 0);
         check.due("cold without", mail.chance(50), 0);
+        mail.seed(seedOfDrawZero());
+        check.due("cold without, a draw of 0", mail.chance(1), 0);
         // Missed is 3: 6 are lost by not telling on what is grave by 2, 8 by telling.
         check.due("missed without", mail.tell(1), 6);
         check.due("near without", mail.mail(0, 7), 0);
@@ -195,6 +200,14 @@ public final class HeapLimitsTest {
         check.due("warm without, behind another heap", mail.warmth(0, 0), 7);
         check.due("cold without, behind another heap", mail.chance(50), 0);
         check.due("missed without, behind another heap", mail.tell(1), 6);
+    }
+
+    private static int seedOfDrawZero() {
+        int seed = 0;
+        while ((1103515245L * seed + 12345) % 2147483648L / 64 % 100 != 0) {
+            seed++;
+        }
+        return seed;
     }
 
     private static void lastCounts() {
@@ -362,6 +375,49 @@ public final class HeapLimitsTest {
         bad(all + "wish none none 0", NAME, all.length() + 5);
         bad(all + "wish a none 0", NAME, all.length() + 7);
         bad(all + "near none ?", NAME, all.length() + 5);
+    }
+
+    /** A statement that ends ahead of its last word or number. */
+    private static void endedTooSoon() {
+        String all = Texts.letters(2) + Texts.gifts(1, 1);
+        for (String text : new String[] {"letter", "letter n", "letter n age", "letter n age 1", "letter n age 1 need",
+            "letter n age 1 need 1", "letter n age 1 need 1 grave", "gift", "gift n", "gift n stock", "wish", "wish a",
+            "wish a p", "near", "near a", "like", "like a", "like a b", "helper", "helper n", "helper n time",
+            "helper n time 1", "helper n time 1 hand", "helper n time 1 hand 1", "helper n time 1 hand 1 bears", "takes",
+            "warm", "missed", "cold"}) {
+            bad(all + text + ";", TEXT, all.length() + text.length());
+            bad(all + text + " ;cold 1;", TEXT, all.length() + text.length() + 1);
+            bad(all + text, TEXT, all.length() + text.length());
+        }
+    }
+
+    /** Words of questions are no words of a heap's sums, whatever was asked ahead. */
+    private static void heapBehindQuestion() {
+        DearLetters mail = good(Texts.letters(1) + Texts.helpers(1, "time 9 hand 7 bears 1"), 2);
+        for (String part : new String[] {"number", "sheet", "done", "gift", "wish 0"}) {
+            check.due("total " + part, Check.ask(mail, "total " + part), 0);
+            check.due("takes " + part, Check.heap(mail, "takes " + part + ";"), NONE);
+            check.due("its place", 10 * mail.fault(0) + mail.fault(1), 16);
+        }
+        check.due("a test", Check.ask(mail, "often all"), 1);
+        check.due("hand behind a question", Check.heap(mail, Texts.letters(1)
+                + Texts.helpers(1, "time 9 hand 7 bears 1") + "takes hand;"), 3);
+        check.due("its time", mail.takes(0, 0), 7);
+    }
+
+    /** One object reads many long texts. */
+    private static void manyHeaps() {
+        DearLetters mail = new DearLetters();
+        String two = Texts.letters(1) + Texts.helpers(1, "time 9 hand 7 bears 1");
+        for (int k = 1; k <= 12; k++) {
+            String sums = "takes " + k + "+0".repeat(300) + ";warm " + "0+".repeat(300) + "2*" + k + ";";
+            check.due("long heap " + k, Check.heap(mail, two + sums), 4);
+            check.due("its time", mail.takes(0, 0), k);
+            check.due("its warmth", mail.warmth(0, 0), 2 * k);
+            check.due("a long question", Check.ask(mail, "total " + k + "-0".repeat(700)), k);
+            check.due("a long test", Check.ask(mail, "often 1=" + k + " or all" + " and all".repeat(100)), 1);
+            check.due("a long heap with a fault", Check.heap(mail, two + "takes 1" + "+1".repeat(700) + "?"), NONE);
+        }
     }
 
     private static void unlikePairs() {

@@ -24,6 +24,7 @@ public final class ImageLimitsTest {
         stockNeedNotGo();
         asItTells();
         thisHeapAlone();
+        fullHeap();
         roundTrips();
         check.finish();
     }
@@ -327,6 +328,38 @@ public final class ImageLimitsTest {
         Check.heap(two, Texts.letters(1));
         Check.tape(two, one);
         due("of the heap that is told now", two.on(), true);
+    }
+
+    /** Eight letters, four gifts, three helpers: each byte at its most. */
+    private static void fullHeap() {
+        String heap = Texts.letters(8) + Texts.gifts(4, 3) + Texts.helpers(3, "time 240 hand 1 bears 1");
+        int[] most = new int[33];
+        Arrays.fill(most, 2, 5, 240);
+        Arrays.fill(most, 5, 9, 3);
+        most[0] = 3;
+        most[1] = 231;
+        for (int k = 9; k < 33; k += 3) {
+            most[k] = 3;
+            most[k + 1] = 4;
+            most[k + 2] = 4;
+        }
+        DearLetters mail = told(heap);
+        due("the most of each byte", Texts.on(mail, most), true);
+        image("the most of each byte", mail, most);
+        due("all answered by the last", mail.helper(2, 4), 255);
+        for (int k = 0; k < 33; k++) {
+            int[] more = most.clone();
+            more[k]++;
+            due("one more at " + k, Texts.on(told(heap), more), false);
+        }
+        // Nothing of it is left in a smaller heap.
+        mail.later(0);
+        mail.finished();
+        Check.heap(mail, Texts.letters(1));
+        due("an image of one letter", Texts.on(mail, 0, 0, 0, 0, 0), true);
+        due("answered, with a sheet, with a gift", mail.has(6) + mail.has(7) + mail.has(8), 0);
+        due("minutes left", mail.has(9), 0);
+        due("later", mail.later(3), 0);
     }
 
     private static void roundTrips() {

@@ -311,6 +311,17 @@ public final class PlanLimitsTest {
             shared("a stock of " + stock, told(Texts.letters(4) + Texts.gifts(1, stock)
                     + "wish a p 2;wish b p 2;wish c p 2;wish d p 2;"), 2 * stock, row);
         }
+        for (int gift = 0; gift < 4; gift++) {
+            String name = " " + (char) ('p' + gift) + " ";
+            String wishes = "wish a" + name + "2;wish b" + name + "4;wish c" + name + "3;";
+            String stocks = Texts.gifts(4, 0);
+            shared("none of gift " + gift, told(Texts.letters(3) + stocks + wishes), 0, NONE, NONE, NONE);
+            shared("one of gift " + gift, told(Texts.letters(3) + stocks.replace(name + "stock 0", name + "stock 1")
+                    + wishes), 4, NONE, gift, NONE);
+            shared("two of gift " + gift, told(Texts.letters(3) + Texts.gifts(4, 3).replace(name + "stock 3",
+                    name + "stock 2") + wishes), 7, NONE, gift, gift);
+            shared("three of gift " + gift, told(Texts.letters(3) + Texts.gifts(4, 3) + wishes), 9, gift, gift, gift);
+        }
         StringBuilder all = new StringBuilder(Texts.letters(8, "age 0 need 9 grave 0") + Texts.gifts(4, 3));
         for (char letter = 'a'; letter <= 'h'; letter++) {
             for (char gift = 'p'; gift <= 's'; gift++) {
@@ -410,6 +421,8 @@ public final class PlanLimitsTest {
         children("9, 9, 1: apart is 9 * 1 * 9, one is 9 * 9 * 1", three + "like a b 9;like b c 9;like a c 1;", 1, 0, 0, 0);
         children("8, 9, 0", three + "like a b 8;like b c 9;like a c 0;", 2, 0, 1, 1);
         children("10, 10, 0: all products are 0", three + "like a b 10;like b c 10;like a c 0;", 1, 0, 0, 0);
+        children("the first alone, four together", Texts.letters(5) + "like a b 1;like a c 1;like a d 1;like a e 1;like b c 9;"
+                + "like b d 9;like b e 9;like c d 9;like c e 9;like d e 9;", 2, 0, 1, 1, 1, 1);
         children("ten of 10", Texts.letters(5) + Texts.pairs("like", 10, " 10"), 1, 0, 0, 0, 0, 0);
         children("ten of 0", Texts.letters(5) + Texts.pairs("like", 10, " 0"), 5, 0, 1, 2, 3, 4);
     }
