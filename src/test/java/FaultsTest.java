@@ -48,10 +48,6 @@ public final class FaultsTest {
         ask(text, 0, -1);
     }
 
-    private static String times(String text, int n) {
-        return text.repeat(n);
-    }
-
     private static void goodHeaps() {
         good("", 0);
         good(" \n ", 0);
@@ -66,8 +62,8 @@ public final class FaultsTest {
         good("takes (1)+(2)*(3)-(4)/(5)+(6)+(7)+(8);", 1);
         good(AB + "near a b;like b a 0;", 4);
         good(AB + "gift g stock 1;wish a g 1;wish a g 9;wish b g 5;", 6);
-        good(times("missed 1;", 80), 80);
-        good(times("missed 1;", 80) + " \n", 80);
+        good("missed 1;".repeat(80), 80);
+        good("missed 1;".repeat(80) + " \n", 80);
     }
 
     private static void textFaults() {
@@ -204,50 +200,30 @@ public final class FaultsTest {
         heap("warm 1+((((((2*(", 4, 15);
     }
 
-    private static String letters(int n) {
-        StringBuilder all = new StringBuilder();
-        for (int k = 0; k < n; k++) {
-            all.append("letter ").append((char) ('a' + k)).append(" age 1 need 1 grave 1;");
-        }
-        return all.toString();
-    }
-
-    private static String pairs(String word, int n, String end) {
-        StringBuilder all = new StringBuilder();
-        int count = 0;
-        for (char one = 'a'; one <= 'h'; one++) {
-            for (char other = 'a'; other < one && count < n; other++) {
-                all.append(word).append(' ').append(one).append(' ').append(other).append(end).append(';');
-                count++;
-            }
-        }
-        return all.toString();
-    }
-
     private static void manyFaults() {
-        good(letters(8), 8);
-        heap(letters(8) + " letter i age 1 need 1 grave 1;", 5, 241);
-        heap(letters(8) + "letter", 5, 240);
-        heap(letters(8) + "letter5", 5, 240);
+        good(Texts.letters(8), 8);
+        heap(Texts.letters(8) + " letter i age 1 need 1 grave 1;", 5, 241);
+        heap(Texts.letters(8) + "letter", 5, 240);
+        heap(Texts.letters(8) + "letter5", 5, 240);
         String gifts = "gift p stock 1;gift q stock 1;gift r stock 1;gift s stock 1;";
         good(gifts, 4);
         heap(gifts + "gift t stock 1;", 5, 60);
         String helpers = "helper p time 1 hand 1 bears 1;helper q time 1 hand 1 bears 1;helper r time 1 hand 1 bears 1;";
         good(helpers, 3);
         heap(helpers + "helper", 5, 93);
-        String near = letters(8) + pairs("near", 20, "");
+        String near = Texts.letters(8) + Texts.pairs("near", 20, "");
         good(near, 28);
         heap(near + "near", 5, near.length());
-        String like = letters(8) + pairs("like", 10, " 5");
+        String like = Texts.letters(8) + Texts.pairs("like", 10, " 5");
         good(like, 18);
         heap(like + "like h a 5;", 5, like.length());
         heap("takes 1;takes", 5, 8);
         heap("warm 1;warm 2;", 5, 7);
         good("takes 1;warm 1;", 2);
-        heap(times("missed 1;", 80) + " ?", 5, 721);
-        heap(times("missed 1;", 80) + "missed 1;", 5, 720);
-        heap(times("missed 1;", 80) + ";", 5, 720);
-        heap(times("missed 1;", 80) + (char) 200, 5, 720);
+        heap("missed 1;".repeat(80) + " ?", 5, 721);
+        heap("missed 1;".repeat(80) + "missed 1;", 5, 720);
+        heap("missed 1;".repeat(80) + ";", 5, 720);
+        heap("missed 1;".repeat(80) + (char) 200, 5, 720);
     }
 
     private static void firstFault() {

@@ -35,7 +35,7 @@ public final class HeapLimitsTest {
         namesOfTheKind();
         endedTooSoon();
         heapBehindQuestion();
-        manyHeaps();
+        longHeaps();
         unlikePairs();
         digits();
         blanks();
@@ -405,19 +405,19 @@ public final class HeapLimitsTest {
         check.due("its time", mail.takes(0, 0), 7);
     }
 
-    /** One object reads many long texts. */
-    private static void manyHeaps() {
+    /** One object reads long heaps one behind another: nothing of one is left in the next. */
+    private static void longHeaps() {
         DearLetters mail = new DearLetters();
         String two = Texts.letters(1) + Texts.helpers(1, "time 9 hand 7 bears 1");
-        for (int k = 1; k <= 12; k++) {
+        for (int k = 1; k <= 5; k++) {
             String sums = "takes " + k + "+0".repeat(300) + ";warm " + "0+".repeat(300) + "2*" + k + ";";
             check.due("long heap " + k, Check.heap(mail, two + sums), 4);
             check.due("its time", mail.takes(0, 0), k);
             check.due("its warmth", mail.warmth(0, 0), 2 * k);
-            check.due("a long question", Check.ask(mail, "total " + k + "-0".repeat(700)), k);
-            check.due("a long test", Check.ask(mail, "often 1=" + k + " or all" + " and all".repeat(100)), 1);
-            check.due("a long heap with a fault", Check.heap(mail, two + "takes 1" + "+1".repeat(700) + "?"), NONE);
         }
+        check.due("a long heap with a fault", Check.heap(mail, two + "takes 1" + "+1".repeat(700) + "?"), NONE);
+        check.due("the time stays", mail.takes(0, 0), 5);
+        check.due("the warmth stays", mail.warmth(0, 0), 10);
     }
 
     private static void unlikePairs() {

@@ -63,14 +63,6 @@ public final class PromisesTest {
         return mail;
     }
 
-    private static String letters(int n, String numbers) {
-        StringBuilder all = new StringBuilder();
-        for (int k = 0; k < n; k++) {
-            all.append("letter ").append((char) ('a' + k)).append(' ').append(numbers).append(';');
-        }
-        return all.toString();
-    }
-
     private static void promise1() {
         DearLetters mail = new DearLetters();
         for (int what = 0; what < 12; what++) {
@@ -239,7 +231,7 @@ public final class PromisesTest {
         due("8: letter 3", mail.mail(3, 0), NONE);
         due("8: letter -1", mail.mail(-1, 0), NONE);
         due("8: letter LEAST", mail.mail(LEAST, MOST), NONE);
-        DearLetters last = told(letters(1, "age 0 need 0 grave 0") + "gift g stock 1;wish a g 9;wish a g 2;");
+        DearLetters last = told(Texts.letters(1, "age 0 need 0 grave 0") + "gift g stock 1;wish a g 9;wish a g 2;");
         due("8: the last wish counts", last.mail(0, 6), 2);
     }
 
@@ -377,7 +369,7 @@ public final class PromisesTest {
     }
 
     private static void promise14() {
-        String two = letters(2, "age 0 need 0 grave 0");
+        String two = Texts.letters(2, "age 0 need 0 grave 0");
         warmest("nobody", two, 0, NONE, NONE);
         warmest("the first row, nobody ahead", two + "helper h time 20 hand 3 bears 0;", 3, NONE, 0);
         warmest("both", two + "helper h time 40 hand 3 bears 0;", 6, 0, 0);
@@ -395,7 +387,7 @@ public final class PromisesTest {
                 + "helper h time 20 hand 1 bears 0;warm 5-age;", 4, 0, NONE);
         warmest("grave ones by who bears them", "letter a age 1 need 0 grave 5;letter b age 2 need 0 grave 0;"
                 + "helper h time 20 hand 1 bears 4;helper i time 20 hand 9 bears 5;", 10, 1, 0);
-        warmest("eight letters, three helpers", letters(8, "age 0 need 0 grave 0")
+        warmest("eight letters, three helpers", Texts.letters(8, "age 0 need 0 grave 0")
                 + "helper x time 60 hand 1 bears 0;helper y time 60 hand 2 bears 0;helper z time 40 hand 3 bears 0;",
                 15, 0, 0, 0, 1, 1, 1, 2, 2);
         DearLetters mail = told(two + "helper h time 40 hand 3 bears 0;");
@@ -409,18 +401,18 @@ public final class PromisesTest {
     }
 
     private static void promise15() {
-        DearLetters mail = told(letters(8, "age 0 need 0 grave 0")
+        DearLetters mail = told(Texts.letters(8, "age 0 need 0 grave 0")
                 + "helper x time 240 hand 3 bears 0;warm 9999*9999;");
         due("15: more than a million together", mail.warms(), 8000000);
         due("15: told by takes of 20", mail.warmest(NONE), 8);
-        mail = told(letters(8, "age 0 need 0 grave 0") + "helper x time 240 hand 3 bears 0;warm (0-9999)*9999;");
+        mail = told(Texts.letters(8, "age 0 need 0 grave 0") + "helper x time 240 hand 3 bears 0;warm (0-9999)*9999;");
         due("15: below 0", mail.warms(), -8000000);
         mail.evenings(1);
         due("15: none left", mail.warms(), 0);
     }
 
     private static void promise16() {
-        DearLetters mail = told(letters(5, "age 0 need 0 grave 0") + "helper h time 40 hand 3 bears 0;");
+        DearLetters mail = told(Texts.letters(5, "age 0 need 0 grave 0") + "helper h time 40 hand 3 bears 0;");
         int[] due = {0, 2, 4, 5, 5};
         for (int n = 0; n < due.length; n++) {
             due("16: later(" + n + ")", mail.later(n), due[n]);
@@ -432,33 +424,22 @@ public final class PromisesTest {
         mail.answer(0, 0);
         due("16: answered ones, too", mail.later(0), 1);
         due("16: with minutes left", mail.later(1), 2);
-        due("16: without draws", told(letters(1, "age 0 need 0 grave 0")
+        due("16: without draws", told(Texts.letters(1, "age 0 need 0 grave 0")
                 + "helper h time 40 hand 3 bears 0;cold 100;").later(1), 1);
         day(mail, 990);
         due("16: up to day 999", mail.later(9), 5);
         due("16: beyond day 999", mail.later(10), NONE);
-        DearLetters slow = told(letters(1, "age 0 need 0 grave 0") + "helper h time 40 hand 3 bears 0;takes 50-day;");
+        DearLetters slow = told(Texts.letters(1, "age 0 need 0 grave 0") + "helper h time 40 hand 3 bears 0;takes 50-day;");
         due("16: the day goes on", slow.later(10), 0);
         due("16: the day goes on", slow.later(11), 1);
     }
 
-    /** Goes on from an image of all as it is, but for the day. */
     private static void day(DearLetters mail, int day) {
-        String image = Check.image(mail);
-        StringBuilder all = new StringBuilder(image);
-        all.setCharAt(0, (char) (day / 256));
-        all.setCharAt(1, (char) (day % 256));
-        int c = 89;
-        for (int k = 0; k < all.length() - 1; k++) {
-            c = (3 * c + all.charAt(k)) % 251;
-        }
-        all.setCharAt(all.length() - 1, (char) c);
-        Check.tape(mail, all.toString());
-        due("35: on() to day " + day, mail.on(), true);
+        due("35: on() to day " + day, Texts.onDay(mail, day), true);
     }
 
     private static void promise17() {
-        String five = letters(5, "age 0 need 0 grave 0");
+        String five = Texts.letters(5, "age 0 need 0 grave 0");
         DearLetters mail = told(five + "helper h time 40 hand 3 bears 0;");
         due("17: three evenings", mail.finished(), 3);
         mail.evenings(1);
@@ -467,7 +448,7 @@ public final class PromisesTest {
         due("17: all are", mail.finished(), 0);
         due("17: none ever", told(five).finished(), NONE);
         due("17: no letters", told("").finished(), 0);
-        String slow = letters(1, "age 0 need 0 grave 0") + "helper h time 1 hand 3 bears 0;takes ";
+        String slow = Texts.letters(1, "age 0 need 0 grave 0") + "helper h time 1 hand 3 bears 0;takes ";
         due("17: in the last evening", told(slow + "30-day;").finished(), 30);
         due("17: an evening too late", told(slow + "31-day;").finished(), NONE);
         mail = told(slow + "max(1,998-day);");
@@ -495,13 +476,13 @@ public final class PromisesTest {
 
     private static void promise18() {
         sheets("no letters", "", 0);
-        String four = letters(4, "age 0 need 0 grave 0");
+        String four = Texts.letters(4, "age 0 need 0 grave 0");
         sheets("none near", four, 1, 1, 1, 1, 1);
         sheets("a row of four", four + "near a b;near b c;near c d;", 2, 1, 2, 1, 2);
         sheets("three in a ring", four + "near a b;near b c;near c a;", 3, 1, 2, 3, 1);
         sheets("all near", four + "near a b;near b c;near c a;near a d;near b d;near c d;", 4, 1, 2, 3, 4);
         sheets("not as it seems at first", four + "near a d;near d c;near c b;", 2, 1, 2, 1, 2);
-        StringBuilder six = new StringBuilder(letters(8, "age 0 need 0 grave 0"));
+        StringBuilder six = new StringBuilder(Texts.letters(8, "age 0 need 0 grave 0"));
         for (char one = 'c'; one <= 'h'; one++) {
             for (char other = 'c'; other < one; other++) {
                 six.append("near ").append(one).append(' ').append(other).append(';');
@@ -537,7 +518,7 @@ public final class PromisesTest {
                 16 + 27, 1, 0);
         shared("no need", told("letter a age 0 need 0 grave 0;gift g stock 1;wish a g 9;"), 0, NONE);
         shared("the least", told("letter a age 0 need 1 grave 0;gift g stock 1;wish a g 1;"), 1, 0);
-        StringBuilder eight = new StringBuilder(letters(8, "age 0 need 9 grave 0"));
+        StringBuilder eight = new StringBuilder(Texts.letters(8, "age 0 need 9 grave 0"));
         eight.append("gift w stock 3;gift x stock 3;gift y stock 3;gift z stock 3;");
         for (char letter = 'a'; letter <= 'h'; letter++) {
             eight.append("wish ").append(letter).append(" w 9;wish ").append(letter).append(" z 8;");
@@ -587,7 +568,7 @@ public final class PromisesTest {
 
     private static void promise21() {
         children("no letters", "", 0);
-        String four = letters(4, "age 0 need 0 grave 0");
+        String four = Texts.letters(4, "age 0 need 0 grave 0");
         children("none alike", four, 1, 0, 0, 0, 0);
         children("half the odds", four + "like a b 5;", 1, 0, 0, 0, 0);
         children("less odds", four + "like a b 4;", 2, 0, 1, 0, 0);
@@ -659,7 +640,7 @@ public final class PromisesTest {
         Check.heap(mail, TIMES);
         due("23: none told in a new heap", mail.whose(), 7);
         due("23: all take 20", whose(mail, 1, 0, 20), 7);
-        due("23: no helpers", told(letters(2, "age 0 need 0 grave 0")).whose(), 0);
+        due("23: no helpers", told(Texts.letters(2, "age 0 need 0 grave 0")).whose(), 0);
     }
 
     private static void promise24() {
@@ -693,7 +674,7 @@ public final class PromisesTest {
         due("24: none left", whose(mail, 0, 0, 8), 0);
         due("24: none left", mail.watched(0), NONE);
         due("24: none left", mail.watched(1), NONE);
-        due("24: no helpers", told(letters(2, "age 0 need 0 grave 0")).watched(0), NONE);
+        due("24: no helpers", told(Texts.letters(2, "age 0 need 0 grave 0")).watched(0), NONE);
         due("24: no letters", told("helper h time 9 hand 1 bears 0;").watched(1), NONE);
     }
 
@@ -716,7 +697,7 @@ public final class PromisesTest {
     }
 
     private static void promise26() {
-        DearLetters mail = told(letters(3, "age 0 need 0 grave 0") + "near a b;");
+        DearLetters mail = told(Texts.letters(3, "age 0 need 0 grave 0") + "near a b;");
         due("26: kind 0", mail.sheet(0, 0), false);
         due("26: kind 5", mail.sheet(0, 5), false);
         due("26: kind -1", mail.sheet(0, -1), false);
@@ -737,7 +718,7 @@ public final class PromisesTest {
     }
 
     private static void promise27() {
-        DearLetters mail = told(letters(4, "age 0 need 0 grave 0") + "gift g stock 2;gift i stock 0;");
+        DearLetters mail = told(Texts.letters(4, "age 0 need 0 grave 0") + "gift g stock 2;gift i stock 0;");
         due("27: one left", mail.give(0, 0), 1);
         due("27: it has one", mail.give(0, 0), NONE);
         due("27: none left at all", mail.give(1, 1), NONE);
@@ -754,7 +735,7 @@ public final class PromisesTest {
     }
 
     private static void promise28() {
-        DearLetters mail = told(letters(5, "age 0 need 0 grave 0") + "helper h time 40 hand 3 bears 0;cold 100;");
+        DearLetters mail = told(Texts.letters(5, "age 0 need 0 grave 0") + "helper h time 40 hand 3 bears 0;cold 100;");
         due("28: 0", mail.evenings(0), NONE);
         due("28: 51", mail.evenings(51), NONE);
         due("28: -1", mail.evenings(-1), NONE);
@@ -774,13 +755,13 @@ public final class PromisesTest {
         due("28: up to day 999", mail.evenings(2), 0);
         due("28: the day", mail.has(5), 999);
         due("28: beyond day 999", mail.evenings(1), NONE);
-        DearLetters slow = told(letters(1, "age 0 need 0 grave 0") + "helper h time 40 hand 3 bears 0;takes 50-day;");
+        DearLetters slow = told(Texts.letters(1, "age 0 need 0 grave 0") + "helper h time 40 hand 3 bears 0;takes 50-day;");
         due("28: the day comes behind the answers", slow.evenings(10), 0);
         due("28: then it is time", slow.evenings(1), 1);
     }
 
     private static void promise29() {
-        String heap = letters(6, "age 0 need 0 grave 0") + "helper h time 20 hand 3 bears 0;helper i time 20 hand 2 bears 0;";
+        String heap = Texts.letters(6, "age 0 need 0 grave 0") + "helper h time 20 hand 3 bears 0;helper i time 20 hand 2 bears 0;";
         DearLetters mail = told(heap + "cold 100;");
         due("29: 0", mail.chance(0), NONE);
         due("29: 51", mail.chance(51), NONE);
@@ -819,7 +800,7 @@ public final class PromisesTest {
     }
 
     private static void promise30() {
-        DearLetters mail = told(letters(3, "age 0 need 0 grave 0") + "gift g stock 1;helper h time 30 hand 1 bears 0;cold 50;");
+        DearLetters mail = told(Texts.letters(3, "age 0 need 0 grave 0") + "gift g stock 1;helper h time 30 hand 1 bears 0;cold 50;");
         due("30: none", mail.undo(), false);
         due("30: status", mail.status(4), 1);
         String first = Check.image(mail);
@@ -967,7 +948,7 @@ public final class PromisesTest {
         mail.image();
         due("33: the day's higher byte", mail.octet(0), 3);
         due("33: the day's lower byte", mail.octet(1), 231);
-        DearLetters most = told(letters(8, "age 0 need 0 grave 0") + "gift p stock 1;gift q stock 1;gift r stock 1;"
+        DearLetters most = told(Texts.letters(8, "age 0 need 0 grave 0") + "gift p stock 1;gift q stock 1;gift r stock 1;"
                 + "gift s stock 1;helper t time 240 hand 1 bears 0;helper u time 9 hand 1 bears 0;"
                 + "helper v time 9 hand 1 bears 0;");
         due("33: the most", most.image(), 34);
@@ -990,15 +971,6 @@ public final class PromisesTest {
         due("34: the latest image", mail.octet(1), 7);
     }
 
-    private static boolean on(DearLetters mail, int... bytes) {
-        int c = 89;
-        for (int each : bytes) {
-            c = (3 * c + each) % 251;
-        }
-        Check.tape(mail, Check.bytes(bytes) + (char) c);
-        return mail.on();
-    }
-
     private static void promise35() {
         DearLetters mail = told(FAMILY);
         mail.answer(1, 1);
@@ -1016,7 +988,7 @@ public final class PromisesTest {
         due("35: nothing to undo", other.has(11), 0);
         due("35: the tape goes", other.end(1), false);
         int[] good = {3, 231, 60, 45, 1, 2, 2, 1, 2, 1, 2, 1, 0, 4, 0};
-        due("35: the most of all", on(other, good), true);
+        due("35: the most of all", Texts.on(other, good), true);
         due("35: the day", other.has(5), 999);
         due("35: answered", other.has(6), 2);
         due("35: stock need not go with gifts", other.gift(0, 0), 1);
@@ -1027,7 +999,7 @@ public final class PromisesTest {
         for (int[] each : wrong) {
             int[] bytes = good.clone();
             bytes[each[0]] = each[1];
-            due("35: byte " + each[0] + " is " + each[1], on(mail, bytes), false);
+            due("35: byte " + each[0] + " is " + each[1], Texts.on(mail, bytes), false);
         }
         due("35: all stays", Check.image(mail).equals(before), true);
         due("35: acts stay", mail.has(11), 3);
@@ -1042,10 +1014,10 @@ public final class PromisesTest {
         mail.end(0);
         due("35: no tape", mail.on(), false);
         int[] bare = {0, 0, 0, 0, 0, 0, 0, 0, 0, 0, 0, 0, 0, 0, 0};
-        due("35: none of all", on(mail, bare), true);
+        due("35: none of all", Texts.on(mail, bare), true);
         due("35: none left", mail.has(9), 0);
         due("35: minutes that were seen stay", mail.has(10), 1);
-        due("35: those not near may have one kind", on(mail, 0, 0, 0, 0, 0, 0, 0, 1, 0, 0, 2, 0, 0, 1, 0), true);
+        due("35: those not near may have one kind", Texts.on(mail, 0, 0, 0, 0, 0, 0, 0, 1, 0, 0, 2, 0, 0, 1, 0), true);
     }
 
     private static void promise36() {

@@ -34,6 +34,7 @@ public final class QuestionLimitsTest {
         numbers();
         blanks();
         wholeTape();
+        longQuestions();
         faults();
         check.finish();
     }
@@ -437,6 +438,18 @@ public final class QuestionLimitsTest {
         bad(all + "  ?", TEXT, 1599);
         bad("total 1" + " ".repeat(1592) + "+", TEXT, 1600);
         bad(" ".repeat(1600), TEXT, 1600);
+    }
+
+    /** One object is asked long questions one behind another: nothing of one is left in the next. */
+    private static void longQuestions() {
+        DearLetters sums = told();
+        DearLetters tests = told();
+        for (int k = 1; k <= 3; k++) {
+            asks(sums, "total " + k + "+0".repeat(700), 3 * k);
+            asks(sums, "most " + "0+".repeat(700) + k, k);
+            asks(tests, "often number<" + k + " and 1=1".repeat(190), k);
+            asks(tests, "first number=" + k + " or 1=2".repeat(190), k < 3 ? k : NONE);
+        }
     }
 
     private static void faults() {
